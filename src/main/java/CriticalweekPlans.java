@@ -1352,7 +1352,9 @@ public final class CriticalweekPlans {
         }
 
         private int tellHours(int calendar, int from, int to, boolean isWork) {
-            Arrays.fill(works[calendar], from, to, isWork ? 1 : 0);
+            for (int hour = from; hour < to; hour++) {
+                works[calendar][hour] = isWork ? 1 : 0;
+            }
             return countWork(calendar, 0, WEEK);
         }
 
@@ -1698,28 +1700,28 @@ public final class CriticalweekPlans {
             int sum = book.sumOfLengths();
             bound = Math.max(net.endTime, (sum + hands - 1) / hands);
             least = sum + book.taskCount * MOST_LAG + 1;
-            putNext(0, 0, -1);
+            putNext(this, 0, 0, -1);
             return least;
         }
 
-        private void putNext(int depth, int time, int lastTask) {
-            if (depth >= net.taskCount || depth >= MOST_SEARCHED) {
-                least = Math.min(least, lastOfEnds());
+        private static void putNext(LikeHands search, int depth, int time, int lastTask) {
+            if (depth >= search.net.taskCount || depth >= MOST_SEARCHED) {
+                search.least = Math.min(search.least, search.lastOfEnds());
                 return;
             }
-            int first = isByLists ? firstBegin(time) : Integer.MAX_VALUE;
-            for (int task = 0; task < net.taskCount && least > bound; task++) {
-                int begin = beginOf(task, time);
-                if (begin == NOT_PUT || begin > first || begin + net.restOf(task) >= least) {
+            int first = search.isByLists ? search.firstBegin(time) : Integer.MAX_VALUE;
+            for (int task = 0; task < search.net.taskCount && search.least > search.bound; task++) {
+                int begin = search.beginOf(task, time);
+                if (begin == NOT_PUT || begin > first || begin + search.net.restOf(task) >= search.least) {
                     continue;
                 }
                 // Tasks that begin at once are put by numbers, as their order makes no difference.
                 if (begin == time && task < lastTask) {
                     continue;
                 }
-                ends[task] = begin + book.facts[LENGTH][task];
-                putNext(depth + 1, begin, task);
-                ends[task] = NOT_PUT;
+                search.ends[task] = begin + search.book.facts[LENGTH][task];
+                putNext(search, depth + 1, begin, task);
+                search.ends[task] = NOT_PUT;
             }
         }
 
@@ -1811,25 +1813,25 @@ public final class CriticalweekPlans {
         private int leastOf() {
             least = net.taskCount;
             Arrays.fill(begins, NOT_PUT);
-            putNext(0, 0);
+            putNext(this, 0, 0);
             return least;
         }
 
-        private void putNext(int depth, int peak) {
-            if (peak >= least) {
+        private static void putNext(Levels search, int depth, int peak) {
+            if (peak >= search.least) {
                 return;
             }
-            if (depth >= net.taskCount || depth >= MOST_SEARCHED) {
-                least = peak;
+            if (depth >= search.net.taskCount || depth >= MOST_SEARCHED) {
+                search.least = peak;
                 return;
             }
-            int task = net.order[depth];
-            int latest = net.latests[task];
-            for (int begin = letOf(task); begin <= latest; begin++) {
-                begins[task] = begin;
-                putNext(depth + 1, Math.max(peak, peakWith(task)));
+            int task = search.net.order[depth];
+            int latest = search.net.latests[task];
+            for (int begin = search.letOf(task); begin <= latest; begin++) {
+                search.begins[task] = begin;
+                putNext(search, depth + 1, Math.max(peak, search.peakWith(task)));
             }
-            begins[task] = NOT_PUT;
+            search.begins[task] = NOT_PUT;
         }
 
         private int letOf(int task) {
@@ -1908,35 +1910,42 @@ public final class CriticalweekPlans {
             shortestEnd();
             time = atMost;
             least = MOST_TASKS * MOST_CUT * MOST_CUT_COST + 1;
-            cutFrom(0, 0);
+            cutFrom(this, 0, 0);
             return least;
         }
 
         /** Those ahead of the task are cut for good; the longest and the shortest lengths are left of others. */
-        private void cutFrom(int task, int cost) {
-            if (cost >= least) {
+        private static void cutFrom(Money search, int task, int cost) {
+            if (cost >= search.least) {
                 return;
             }
-            if (endWith(longest) <= time) {
-                least = cost;
+            if (search.endWith(search.longest) <= search.time) {
+                search.least = cost;
                 return;
             }
-            int next = task;
-            while (next < book.taskCount && book.facts[CUT][next] == 0) {
-                next++;
-            }
-            if (next >= book.taskCount || endWith(shortest) > time) {
+            int next = search.nextToCut(task);
+            if (next >= search.book.taskCount || search.endWith(search.shortest) > search.time) {
                 return;
             }
-            int length = book.facts[LENGTH][next];
-            int most = book.facts[CUT][next];
+            int length = search.book.facts[LENGTH][next];
+            int most = search.book.facts[CUT][next];
+            int each = search.book.facts[CUT_COST][next];
             for (int cut = 0; cut <= most; cut++) {
-                longest[next] = length - cut;
-                shortest[next] = length - cut;
-                cutFrom(next + 1, cost + cut * book.facts[CUT_COST][next]);
+                search.longest[next] = length - cut;
+                search.shortest[next] = length - cut;
+                cutFrom(search, next + 1, cost + cut * each);
             }
-            longest[next] = length;
-            shortest[next] = length - most;
+            search.longest[next] = length;
+            search.shortest[next] = length - most;
+        }
+
+        private int nextToCut(int task) {
+            for (int next = task; next < book.taskCount; next++) {
+                if (book.facts[CUT][next] > 0) {
+                    return next;
+                }
+            }
+            return MOST_TASKS;
         }
     }
 
@@ -2034,7 +2043,7 @@ public final class CriticalweekPlans {
             Arrays.fill(lets, 0);
             findNeeded();
             findCraned();
-            takeNext(0, 0, 0);
+            takeNext(this, 0, 0, 0);
             return least;
         }
 
@@ -2056,27 +2065,28 @@ public final class CriticalweekPlans {
             }
         }
 
-        private void takeNext(int depth, int taken, int freeAt) {
+        private static void takeNext(CraneOrders search, int depth, int taken, int freeAt) {
             if (depth > MOST_CRANED) {
                 return;
             }
-            int[] times = begins[depth];
-            System.arraycopy(lets, 0, times, 0, MOST_TASKS);
-            net.pushBegins(book.facts[LENGTH], times);
-            int sum = endOf(0, times) + endOf(1, times);
-            if (sum >= least) {
+            int[] lengths = search.book.facts[LENGTH];
+            int[] times = search.begins[depth];
+            System.arraycopy(search.lets, 0, times, 0, MOST_TASKS);
+            search.net.pushBegins(lengths, times);
+            int sum = search.endOf(0, times) + search.endOf(1, times);
+            if (sum >= search.least) {
                 return;
             }
-            if (taken == craned) {
-                least = sum;
+            if (taken == search.craned) {
+                search.least = sum;
                 return;
             }
-            for (int task = 0; task < book.taskCount; task++) {
-                int left = craned & ~taken;
-                if ((left >> task & 1) == 1 && (needed[task] & left) == 0) {
-                    lets[task] = Math.max(times[task], freeAt);
-                    takeNext(depth + 1, taken | 1 << task, lets[task] + book.facts[LENGTH][task]);
-                    lets[task] = 0;
+            int left = search.craned & ~taken;
+            for (int task = 0; task < search.book.taskCount; task++) {
+                if ((left >> task & 1) == 1 && (search.needed[task] & left) == 0) {
+                    search.lets[task] = Math.max(times[task], freeAt);
+                    takeNext(search, depth + 1, taken | 1 << task, search.lets[task] + lengths[task]);
+                    search.lets[task] = 0;
                 }
             }
         }
