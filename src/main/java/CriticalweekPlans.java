@@ -1936,7 +1936,6 @@ public final class CriticalweekPlans {
                 cutFrom(search, next + 1, cost + cut * each);
             }
             search.longest[next] = length;
-            search.shortest[next] = length - most;
         }
 
         private int nextToCut(int task) {

@@ -436,6 +436,11 @@ public final class PromisesTest {
         Check.is("independent of a first one", x.slack(0, 'd'), 0);
         CriticalweekPlans lone = with(4, 9);
         Check.is("independent of one alone", lone.slack(0, 'd'), 5);
+        CriticalweekPlans lags = ofText("2;1:0+3;30;1:1+2,2");
+        Check.is("free", lags.slack(1, 'f'), 22);
+        Check.is("independent, with a lag ahead", lags.slack(1, 'd'), 0);
+        CriticalweekPlans sure = ofText("9;1:0+3;30:0;1:1+2,2");
+        Check.is("independent, with lags", sure.slack(1, 'd'), 39 - 2 - 12 - 1);
         Check.fails(NONE, x, y -> y.slack(5, 'x'));
         Check.fails(NONE, x, y -> y.slack(-1, 't'));
         Check.fails(BAD, x, y -> y.slack(0, 'x'));
@@ -469,6 +474,8 @@ public final class PromisesTest {
         other.need(0, 2, 0);
         other.need(1, 2, 0);
         Check.is("the least numbers", other.chainAt(0) * 10 + other.chainAt(1), 2);
+        CriticalweekPlans fork = ofText("1;1:0;1:0;1:1,2");
+        Check.is("the least numbers", fork.chainAt(0) * 100 + fork.chainAt(1) * 10 + fork.chainAt(2), 13);
     }
 
     private static void calendars() {
@@ -540,6 +547,11 @@ public final class PromisesTest {
         Check.fails(NEVER, wrap, y -> y.clockBegin(1));
         wrap.set(0, 'l', 21);
         Check.fails(NEVER, wrap, y -> y.clockBegin(0));
+        CriticalweekPlans first = with(5);
+        first.hours(0, 1, 168, false);
+        first.set(0, 'z', 1);
+        Check.promise(27);
+        Check.is("the first hour of each week", first.clockEnd(0), 4 * 168 + 1);
         CriticalweekPlans slow = with(60, 60);
         slow.need(0, 1, 30);
         slow.hours(0, 0, 167, false);
@@ -841,6 +853,8 @@ public final class PromisesTest {
         Check.is("two behind each other", with(4, 2, 2).leastPeak(), 2);
         Check.is("three", with(4, 3, 2).leastPeak(), 3);
         Check.is("with needs", ofText("6;2;2:1+1;1").leastPeak(), 2);
+        Check.is("with a lag that keeps it up", ofText("4;1;1:1+2;2").leastPeak(), 2);
+        Check.is("with a lag that is too long", ofText("4;1;1:1+2;3").leastPeak(), 3);
         CriticalweekPlans skills = with(4, 2, 2);
         skills.set(1, 'm', 0);
         skills.set(2, 's', 1);
@@ -858,6 +872,8 @@ public final class PromisesTest {
         Check.promise(45);
         Check.is("before", x.shorten(0, 5, 99), 0);
         Check.is("before", x.shorten(0, 2, 7), 5);
+        Check.is("for nothing", x.shorten(0, 2, 0), 2);
+        Check.is("before", x.shorten(0, 2, 7), 2);
         Check.fails(NONE, x, y -> y.shorten(4, 9, 9));
         Check.fails(BAD, x, y -> y.shorten(0, 6, 0));
         Check.fails(BAD, x, y -> y.shorten(0, -1, 0));
@@ -877,6 +893,12 @@ public final class PromisesTest {
         Check.is("cost", x.leastCost(Integer.MAX_VALUE), 0);
         Check.fails(NONE, x, y -> y.leastCost(9));
         Check.fails(NONE, x, y -> y.leastCost(Integer.MIN_VALUE));
+        CriticalweekPlans dear = ofText("6;6:0;6:1;6:2;6:3");
+        for (int task = 0; task < 4; task++) {
+            dear.shorten(task, 5, 99 - task);
+        }
+        Check.is("dear", dear.leastCost(10), 5 * (99 + 98 + 97 + 96));
+        Check.is("the cheaper ones first", dear.leastCost(24), 5 * 96 + 97);
         CriticalweekPlans none = new CriticalweekPlans();
         Check.is("without tasks", none.leastCost(0), 0);
         Check.fails(NONE, none, y -> y.leastCost(-1));
@@ -963,6 +985,12 @@ public final class PromisesTest {
         Check.fails(RATIO, x, y -> y.index(0));
         Check.fails(BAD, x, y -> y.index(-1));
         Check.fails(RATIO, new CriticalweekPlans(), y -> y.index(7));
+        CriticalweekPlans hour = with(1);
+        hour.set(0, 'w', 5);
+        Check.is("an hour", hour.index(1), 0.0f);
+        Check.promise(52);
+        Check.is("an hour", hour.planned(1), 5);
+        Check.promise(54);
         CriticalweekPlans small = with(9);
         small.set(0, 'w', 1);
         Check.fails(RATIO, small, y -> y.index(8));
@@ -1011,6 +1039,10 @@ public final class PromisesTest {
         Check.is("two orders", x.crane(), 22);
         Check.is("without tasks", new CriticalweekPlans().crane(), 0);
         Check.is("hands enough", with(3, 5, 4).crane(), 5);
+        x.set(1, 'm', 2);
+        Check.is("no order any longer", x.crane(), 11 + 6);
+        x.undo();
+        Check.is("two orders again", x.crane(), 22);
         CriticalweekPlans other = with(3, 5);
         other.set(0, 'm', 1);
         other.set(1, 'm', 1);
