@@ -738,6 +738,10 @@ public final class PromisesTest {
         ties.plan('n', 'p');
         Check.promise(39);
         Check.is("the lowest number", ties.proofAt(0), 0);
+        CriticalweekPlans turned = ofText("3;3;3;2:0,1");
+        turned.hands(0, 5);
+        turned.plan('n', 'p');
+        Check.is("the lowest number", turned.proofAt(0), 0);
         CriticalweekPlans last = with(2, 2);
         last.hands(0, 2);
         last.plan('n', 'p');
@@ -780,6 +784,11 @@ public final class PromisesTest {
             Check.promise(42);
             Check.is("best by lists with " + hands, x.bestByLists(hands), byLists[hands - 1]);
         }
+        CriticalweekPlans turned = ofText("5;1;5:1;5:1;5:2,3");
+        Check.promise(41);
+        Check.is("best in another order", turned.best(2), 11);
+        Check.promise(42);
+        Check.is("best by lists in another order", turned.bestByLists(2), 15);
         CriticalweekPlans seven = with(1, 1, 1, 1, 1, 1, 1);
         CriticalweekPlans none = new CriticalweekPlans();
         Check.promise(41);
@@ -1055,6 +1064,12 @@ public final class PromisesTest {
         }
         turned.set(0, 'p', 1);
         Check.is("needs among them", turned.crane(), 14 + 7);
+        CriticalweekPlans last = with(5, 3, 1);
+        for (int task = 0; task < 3; task++) {
+            last.set(task, 'm', 0);
+        }
+        last.set(2, 'p', 1);
+        Check.is("the last one first", last.crane(), 9 + 1);
         CriticalweekPlans many = with(1, 2, 3, 4, 5, 6);
         for (int task = 0; task < 5; task++) {
             many.set(task, 'm', 0);
