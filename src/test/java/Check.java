@@ -1,3 +1,8 @@
+import java.lang.reflect.InvocationTargetException;
+import java.lang.reflect.Method;
+import java.lang.reflect.Modifier;
+import java.util.Arrays;
+import java.util.Comparator;
 import java.util.function.Consumer;
 import java.util.function.Supplier;
 
@@ -6,13 +11,42 @@ final class Check {
 
     private static int right;
     private static int wrong;
-    private static String promise = "";
+    private static int tests;
+    private static String label = "";
 
     private Check() {
     }
 
     static void promise(int number) {
-        promise = "promise " + number;
+        label = "promise " + number;
+    }
+
+    /** Runs each method promiseNN_case() of a class; its name tells the promise and the case. */
+    static void runAll(Class<?> ofTests) {
+        Method[] methods = ofTests.getDeclaredMethods();
+        Arrays.sort(methods, Comparator.comparing(Method::getName));
+        for (Method method : methods) {
+            if (Modifier.isStatic(method.getModifiers()) && method.getName().matches("promise\\d\\d_\\w+")) {
+                runOne(method);
+            }
+        }
+        close();
+    }
+
+    private static void runOne(Method method) {
+        label = method.getName();
+        int before = right + wrong;
+        try {
+            method.invoke(null);
+        } catch (InvocationTargetException thrown) {
+            is("the way through the test", thrown.getCause(), "nothing thrown");
+        } catch (IllegalAccessException exception) {
+            is("the way into the test", exception, "open");
+        }
+        tests++;
+        if (right + wrong == before) {
+            is("the number of checks", 0, "1 or more");
+        }
     }
 
     static void is(String what, Object got, Object want) {
@@ -21,50 +55,28 @@ final class Check {
             return;
         }
         wrong++;
-        System.out.println(promise + ": " + what + " is " + got + ", due is " + want);
+        System.out.println(label + ": " + what + " is " + got + ", due is " + want);
     }
 
     static void isTrue(String what, boolean holds) {
         is(what, holds, true);
     }
 
+    static void fails(Class<? extends RuntimeException> due, Recorded on, Consumer<Recorded> call) {
+        fails("the call", due, on, call);
+    }
+
     /** The call must throw just that exception, and nothing that can be asked may be otherwise behind it. */
-    static void fails(Class<? extends RuntimeException> due, CriticalweekPlans on, Consumer<CriticalweekPlans> call) {
-        String before = stateOf(on);
+    static void fails(String what, Class<? extends RuntimeException> due, Recorded on, Consumer<Recorded> call) {
+        String before = State.of(on);
         Object thrown = "nothing";
         try {
             call.accept(on);
         } catch (RuntimeException exception) {
             thrown = exception.getClass();
         }
-        is("what is thrown", thrown, due);
-        is("the state behind a throw", stateOf(on), before);
-    }
-
-    /** All that can be asked without a change, as one text. */
-    static String stateOf(CriticalweekPlans on) {
-        StringBuilder state = new StringBuilder();
-        state.append(on.checksum()).append(' ').append(on.leastEnd()).append(' ').append(on.moved());
-        state.append(' ').append(answer(() -> on.allOdds()));
-        for (int calendar = 0; calendar < 4; calendar++) {
-            for (int hour = 0; hour < 168; hour++) {
-                state.append(on.isWork(calendar, hour) ? 'w' : '.');
-            }
-        }
-        for (int task = 0; task < on.tasks(); task++) {
-            int each = task;
-            state.append('\n').append(on.listed('t', task));
-            state.append(' ').append(answer(() -> on.movedBy(each)));
-            state.append(' ').append(answer(() -> on.planBegin(each)));
-            state.append(' ').append(answer(() -> on.planHand(each)));
-            state.append(' ').append(answer(() -> on.oddsCritical(each)));
-        }
-        for (int time = 0; time <= on.end(); time++) {
-            int each = time;
-            state.append(' ').append(answer(() -> on.leastCost(each)));
-        }
-        state.append(' ').append(answer(() -> on.planEnd())).append(' ').append(answer(() -> on.isProved()));
-        return state.toString();
+        is("what is thrown by " + what, thrown, due);
+        is("the state behind " + what, State.of(on), before);
     }
 
     static Object answer(Supplier<Object> call) {
@@ -76,7 +88,7 @@ final class Check {
     }
 
     static void close() {
-        System.out.println(right + " checks right, " + wrong + " wrong");
+        System.out.println((tests > 0 ? tests + " tests, " : "") + right + " checks right, " + wrong + " wrong");
         if (wrong > 0 || right == 0) {
             System.exit(1);
         }

@@ -1,14 +1,5 @@
-import java.util.NoSuchElementException;
-
 /** For each promise what it says, its edges, and what it throws. */
-public final class PromisesTest {
-
-    private static final Class<IllegalArgumentException> BAD = IllegalArgumentException.class;
-    private static final Class<IllegalStateException> STATE = IllegalStateException.class;
-    private static final Class<NoSuchElementException> NONE = NoSuchElementException.class;
-    private static final Class<IndexOutOfBoundsException> PLACE = IndexOutOfBoundsException.class;
-    private static final Class<UnsupportedOperationException> NEVER = UnsupportedOperationException.class;
-    private static final Class<ArithmeticException> RATIO = ArithmeticException.class;
+public final class PromisesTest extends Edges {
 
     public static void main(String[] args) {
         newObject();
@@ -41,36 +32,9 @@ public final class PromisesTest {
         Check.close();
     }
 
-    /** A book with tasks of these lengths. */
-    private static CriticalweekPlans with(int... lengths) {
-        CriticalweekPlans x = new CriticalweekPlans();
-        for (int length : lengths) {
-            x.task(length);
-        }
-        return x;
-    }
-
-    private static int readText(CriticalweekPlans x, String text) {
-        x.erase();
-        typeAll(x, text);
-        return x.read();
-    }
-
-    private static void typeAll(CriticalweekPlans x, String text) {
-        for (char sign : text.toCharArray()) {
-            x.type(sign);
-        }
-    }
-
-    private static CriticalweekPlans ofText(String text) {
-        CriticalweekPlans x = new CriticalweekPlans();
-        Check.isTrue("the reading of " + text, readText(x, text) >= 0);
-        return x;
-    }
-
     private static void newObject() {
         Check.promise(1);
-        CriticalweekPlans x = new CriticalweekPlans();
+        Recorded x = new Recorded();
         Check.is("tasks", x.tasks(), 0);
         Check.is("needs", x.needs(), 0);
         Check.is("end", x.end(), 0);
@@ -80,8 +44,9 @@ public final class PromisesTest {
         Check.fails(STATE, x, y -> y.planEnd());
         Check.fails(NONE, x, y -> y.undo());
         for (int calendar = 0; calendar < 4; calendar++) {
+            Recorded other = new Recorded();
             for (int hour = 0; hour < 168; hour++) {
-                Check.isTrue("work", x.isWork(calendar, hour));
+                Check.isTrue("work", other.isWork(calendar, hour));
             }
         }
         for (int skill = 0; skill < 3; skill++) {
@@ -91,7 +56,7 @@ public final class PromisesTest {
 
     private static void tasksAndFacts() {
         Check.promise(2);
-        CriticalweekPlans x = new CriticalweekPlans();
+        Recorded x = new Recorded();
         Check.fails(BAD, x, y -> y.task(0));
         Check.fails(BAD, x, y -> y.task(61));
         Check.fails(BAD, x, y -> y.task(Integer.MIN_VALUE));
@@ -129,7 +94,7 @@ public final class PromisesTest {
         Check.fails(NONE, x, y -> y.set(20, 'x', 0));
         Check.fails(NONE, x, y -> y.set(-1, 'l', 0));
         Check.fails(BAD, x, y -> y.set(0, 'x', 0));
-        CriticalweekPlans z = with(6);
+        Recorded z = with(6);
         z.shorten(0, 3, 1);
         Check.fails(BAD, z, y -> y.set(0, 'l', 3));
         Check.is("length", z.set(0, 'l', 4), 6);
@@ -147,7 +112,7 @@ public final class PromisesTest {
 
     private static void needsAndRings() {
         Check.promise(6);
-        CriticalweekPlans x = with(1, 2, 3, 4);
+        Recorded x = with(1, 2, 3, 4);
         Check.is("number", x.need(0, 1, 0), 0);
         Check.is("number", x.need(1, 2, 30), 1);
         Check.is("a way around", x.need(0, 2, 0), 2);
@@ -179,7 +144,7 @@ public final class PromisesTest {
         Check.is("none", x.ring(3, 0), 0);
         Check.fails(NONE, x, y -> y.ring(4, 0));
         Check.fails(NONE, x, y -> y.ring(0, 4));
-        CriticalweekPlans row = with(1, 1, 1, 1, 1, 1, 1, 1, 1, 1, 1, 1, 1, 1, 1, 1, 1, 1, 1, 1);
+        Recorded row = with(1, 1, 1, 1, 1, 1, 1, 1, 1, 1, 1, 1, 1, 1, 1, 1, 1, 1, 1, 1);
         for (int task = 19; task > 0; task--) {
             row.need(task, task - 1, 0);
         }
@@ -200,7 +165,7 @@ public final class PromisesTest {
 
     private static void manyNeeds() {
         Check.promise(6);
-        CriticalweekPlans x = with(1, 1, 1, 1, 1, 1, 1, 1, 1, 1, 1, 1);
+        Recorded x = with(1, 1, 1, 1, 1, 1, 1, 1, 1, 1, 1, 1);
         for (int later = 1; later < 12; later++) {
             for (int earlier = 0; earlier < later && x.needs() < 50; earlier++) {
                 Check.is("number", x.need(earlier, later, 0), x.needs() - 1);
@@ -217,7 +182,7 @@ public final class PromisesTest {
 
     private static void undoing() {
         Check.promise(11);
-        CriticalweekPlans x = new CriticalweekPlans();
+        Recorded x = new Recorded();
         Check.fails(NONE, x, y -> y.undo());
         x.task(5);
         x.task(6);
@@ -277,7 +242,7 @@ public final class PromisesTest {
 
     private static void typing() {
         Check.promise(12);
-        CriticalweekPlans x = new CriticalweekPlans();
+        Recorded x = new Recorded();
         Check.fails(BAD, x, y -> y.type((char) 31));
         Check.fails(BAD, x, y -> y.type((char) 127));
         Check.fails(BAD, x, y -> y.type((char) 65535));
@@ -303,7 +268,7 @@ public final class PromisesTest {
 
     private static void reading() {
         Check.promise(15);
-        CriticalweekPlans x = with(9, 9, 9);
+        Recorded x = with(9, 9, 9);
         x.set(0, 'w', 9);
         x.need(0, 1, 0);
         x.shorten(2, 2, 2);
@@ -335,15 +300,15 @@ public final class PromisesTest {
     }
 
     private static void fault(String text, int place) {
-        CriticalweekPlans x = with(3, 4);
+        Recorded x = with(3, 4);
         x.need(0, 1, 1);
         x.list(1);
         x.plan('t', 'p');
         x.keep();
-        String before = Check.stateOf(x);
+        String before = State.of(x);
         Check.is("read of " + text, readText(x, text), -1 - place);
         Check.is("signs", x.erase(), 0);
-        Check.is("the state behind a fault", Check.stateOf(x), before);
+        Check.is("the state behind a fault", State.of(x), before);
         Check.is("kept", x.undo(), 2);
     }
 
@@ -387,7 +352,7 @@ public final class PromisesTest {
     }
 
     private static void plainPlan() {
-        CriticalweekPlans x = ofText("3;2:0+1;5;1:1,2+4");
+        Recorded x = ofText("3;2:0+1;5;1:1,2+4");
         Check.promise(16);
         Check.is("earliest", x.earliest(0), 0);
         Check.is("earliest", x.earliest(1), 4);
@@ -401,13 +366,13 @@ public final class PromisesTest {
         Check.fails(NONE, x, y -> y.latest(4));
         Check.promise(18);
         Check.is("end", x.end(), 10);
-        Check.is("end", new CriticalweekPlans().end(), 0);
+        Check.is("end", new Recorded().end(), 0);
         Check.promise(20);
         Check.is("rest", x.rest(0), 7);
         Check.is("rest", x.rest(2), 10);
         Check.is("rest", x.rest(3), 1);
         Check.fails(NONE, x, y -> y.rest(4));
-        CriticalweekPlans back = with(2, 3, 4);
+        Recorded back = with(2, 3, 4);
         back.need(2, 1, 5);
         back.need(1, 0, 0);
         Check.promise(16);
@@ -423,7 +388,7 @@ public final class PromisesTest {
 
     private static void slacks() {
         Check.promise(19);
-        CriticalweekPlans x = ofText("2;3:0;9;1:1+1,2;1:1");
+        Recorded x = ofText("2;3:0;9;1:1+1,2;1:1");
         Check.is("total", x.slack(1, 't'), 3);
         Check.is("free", x.slack(1, 'f'), 0);
         Check.is("interfering", x.slack(1, 'i'), 3);
@@ -434,12 +399,12 @@ public final class PromisesTest {
         Check.is("independent", x.slack(4, 'd'), 1);
         Check.is("total of a critical one", x.slack(2, 't'), 0);
         Check.is("independent of a first one", x.slack(0, 'd'), 0);
-        CriticalweekPlans lone = with(4, 9);
+        Recorded lone = with(4, 9);
         Check.is("independent of one alone", lone.slack(0, 'd'), 5);
-        CriticalweekPlans lags = ofText("2;1:0+3;30;1:1+2,2");
+        Recorded lags = ofText("2;1:0+3;30;1:1+2,2");
         Check.is("free", lags.slack(1, 'f'), 22);
         Check.is("independent, with a lag ahead", lags.slack(1, 'd'), 0);
-        CriticalweekPlans sure = ofText("9;1:0+3;30:0;1:1+2,2");
+        Recorded sure = ofText("9;1:0+3;30:0;1:1+2,2");
         Check.is("independent, with lags", sure.slack(1, 'd'), 39 - 2 - 12 - 1);
         Check.fails(NONE, x, y -> y.slack(5, 'x'));
         Check.fails(NONE, x, y -> y.slack(-1, 't'));
@@ -447,13 +412,13 @@ public final class PromisesTest {
     }
 
     private static void longestChains() {
-        CriticalweekPlans x = ofText("2;3;1;4:0,1;3:1+1;2:3,4;1:4+1");
+        Recorded x = ofText("2;3;1;4:0,1;3:1+1;2:3,4;1:4+1");
         // Longest: 1-3-5 (9), 1-4-5 (9), 1-4-6 (9).
         Check.promise(21);
         Check.is("chains", x.chains(), 3L);
-        Check.is("chains", new CriticalweekPlans().chains(), 0L);
+        Check.is("chains", new Recorded().chains(), 0L);
         Check.is("chains of tasks alone", with(4, 4, 3).chains(), 2L);
-        CriticalweekPlans layers = with(1, 1, 1, 1, 1, 1, 1, 1, 1, 1, 1, 1, 1, 1, 1, 1, 1, 1, 1, 1);
+        Recorded layers = with(1, 1, 1, 1, 1, 1, 1, 1, 1, 1, 1, 1, 1, 1, 1, 1, 1, 1, 1, 1);
         for (int layer = 0; layer < 9; layer++) {
             for (int each = 0; each < 4; each++) {
                 layers.need(2 * layer + each / 2, 2 * layer + 2 + each % 2, 0);
@@ -462,25 +427,25 @@ public final class PromisesTest {
         Check.is("chains of ten layers", layers.chains(), 1024L);
         Check.promise(22);
         Check.is("told", x.chainLength(), 3);
-        Check.is("told", new CriticalweekPlans().chainLength(), 0);
+        Check.is("told", new Recorded().chainLength(), 0);
         Check.is("told", layers.chainLength(), 10);
         Check.promise(23);
         Check.is("told", x.chainAt(0) * 100 + x.chainAt(1) * 10 + x.chainAt(2), 135);
         Check.fails(PLACE, x, y -> y.chainAt(3));
         Check.fails(PLACE, x, y -> y.chainAt(-1));
-        Check.fails(PLACE, new CriticalweekPlans(), y -> y.chainAt(0));
-        CriticalweekPlans other = with(1, 1, 1, 1);
+        Check.fails(PLACE, new Recorded(), y -> y.chainAt(0));
+        Recorded other = with(1, 1, 1, 1);
         other.need(0, 3, 0);
         other.need(0, 2, 0);
         other.need(1, 2, 0);
         Check.is("the least numbers", other.chainAt(0) * 10 + other.chainAt(1), 2);
-        CriticalweekPlans fork = ofText("1;1:0;1:0;1:1,2");
+        Recorded fork = ofText("1;1:0;1:0;1:1,2");
         Check.is("the least numbers", fork.chainAt(0) * 100 + fork.chainAt(1) * 10 + fork.chainAt(2), 13);
     }
 
     private static void calendars() {
         Check.promise(24);
-        CriticalweekPlans x = new CriticalweekPlans();
+        Recorded x = new Recorded();
         Check.is("all but one", x.hours(1, 0, 167, false), 1);
         Check.fails(NEVER, x, y -> y.hours(1, 167, 168, false));
         Check.fails(NEVER, x, y -> y.hours(1, 0, 168, false));
@@ -513,7 +478,7 @@ public final class PromisesTest {
     }
 
     private static void byTheClock() {
-        CriticalweekPlans x = ofText("4;8:0+2;3:1");
+        Recorded x = ofText("4;8:0+2;3:1");
         x.hours(1, 0, 10, false);
         x.hours(1, 12, 168, false);
         x.set(1, 'c', 1);
@@ -528,7 +493,7 @@ public final class PromisesTest {
         Check.fails(NONE, x, y -> y.clockEnd(-1));
         Check.promise(28);
         Check.fails(NEVER, x, y -> y.clockAll());
-        Check.is("without tasks", new CriticalweekPlans().clockAll(), 0);
+        Check.is("without tasks", new Recorded().clockAll(), 0);
         x.set(1, 'z', 1);
         Check.is("all", x.clockAll(), 3 * 168 + 15);
         Check.promise(26);
@@ -540,19 +505,19 @@ public final class PromisesTest {
         Check.is("two in a row", x.clockEnd(1), 12);
         x.set(0, 'l', 9);
         Check.is("only one is left of this week's", x.clockEnd(1), 168 + 12);
-        CriticalweekPlans wrap = with(20, 60);
+        Recorded wrap = with(20, 60);
         wrap.hours(0, 10, 158, false);
         Check.promise(26);
         Check.is("over the week's end", wrap.clockBegin(0), 158);
         Check.fails(NEVER, wrap, y -> y.clockBegin(1));
         wrap.set(0, 'l', 21);
         Check.fails(NEVER, wrap, y -> y.clockBegin(0));
-        CriticalweekPlans first = with(5);
+        Recorded first = with(5);
         first.hours(0, 1, 168, false);
         first.set(0, 'z', 1);
         Check.promise(27);
         Check.is("the first hour of each week", first.clockEnd(0), 4 * 168 + 1);
-        CriticalweekPlans slow = with(60, 60);
+        Recorded slow = with(60, 60);
         slow.need(0, 1, 30);
         slow.hours(0, 0, 167, false);
         slow.set(0, 'z', 1);
@@ -564,7 +529,7 @@ public final class PromisesTest {
 
     private static void handsAndLists() {
         Check.promise(29);
-        CriticalweekPlans x = ofText("3;5:0;2;5;1:2");
+        Recorded x = ofText("3;5:0;2;5;1:2");
         Check.is("before", x.hands(2, 5), 1);
         Check.is("before", x.hands(2, 1), 5);
         Check.is("another skill", x.hands(1, 1), 1);
@@ -600,13 +565,13 @@ public final class PromisesTest {
         Check.is("typed", x.list(3), 1);
     }
 
-    private static void listIs(CriticalweekPlans x, char rule, int... due) {
+    private static void listIs(Recorded x, char rule, int... due) {
         for (int place = 0; place < due.length; place++) {
             Check.is("list " + rule + " at " + place, x.listed(rule, place), due[place]);
         }
     }
 
-    private static void plan(CriticalweekPlans x, char rule, char way, int end, int... begins) {
+    private static void plan(Recorded x, char rule, char way, int end, int... begins) {
         Check.promise(33);
         Check.is("end of plan " + rule + way, x.plan(rule, way), end);
         Check.promise(36);
@@ -618,7 +583,7 @@ public final class PromisesTest {
     }
 
     private static void freeHands() {
-        CriticalweekPlans x = ofText("4;3;2:1+1;5;1:0");
+        Recorded x = ofText("4;3;2:1+1;5;1:0");
         plan(x, 'n', 'p', 15, 0, 4, 12, 7, 14);
         x.hands(0, 2);
         plan(x, 'n', 'p', 8, 0, 0, 4, 3, 6);
@@ -631,7 +596,7 @@ public final class PromisesTest {
     }
 
     private static void oneAfterAnother() {
-        CriticalweekPlans x = new CriticalweekPlans();
+        Recorded x = new Recorded();
         Check.promise(33);
         Check.fails(BAD, x, y -> y.plan('x', 'p'));
         Check.fails(BAD, x, y -> y.plan('n', 'x'));
@@ -654,7 +619,7 @@ public final class PromisesTest {
         plan(x, 'n', 's', 11, 0, 6, 2, 3, 6);
         Check.promise(35);
         Check.is("hand of a skill", x.planHand(3), 0);
-        CriticalweekPlans two = with(1, 5, 2, 2);
+        Recorded two = with(1, 5, 2, 2);
         two.hands(0, 2);
         plan(two, 'n', 's', 5, 0, 0, 1, 3);
         Check.promise(35);
@@ -664,7 +629,7 @@ public final class PromisesTest {
     }
 
     private static void plansStay() {
-        CriticalweekPlans x = ofText("3;4:0");
+        Recorded x = ofText("3;4:0");
         Check.promise(34);
         Check.fails(STATE, x, y -> y.planBegin(9));
         Check.promise(35);
@@ -711,14 +676,14 @@ public final class PromisesTest {
         planGoes(x, () -> x.undo());
     }
 
-    private static void planGoes(CriticalweekPlans x, Runnable call) {
+    private static void planGoes(Recorded x, Runnable call) {
         x.plan('n', 'p');
         call.run();
         Check.fails(STATE, x, y -> y.planEnd());
     }
 
     private static void proofs() {
-        CriticalweekPlans x = ofText("4;3;2:1+1;5;1:0,2+3");
+        Recorded x = ofText("4;3;2:1+1;5;1:0,2+3");
         x.hands(0, 2);
         x.plan('n', 'p');
         // 0: 0-4, 1: 0-3, 2: 4-6, 3: 3-8, 4: 9-10
@@ -733,21 +698,21 @@ public final class PromisesTest {
         Check.promise(40);
         Check.isTrue("proved", x.isProved());
         Check.isTrue("without tasks", emptyProof().isProved());
-        CriticalweekPlans ties = ofText("3;3;3;2:1,0");
+        Recorded ties = ofText("3;3;3;2:1,0");
         ties.hands(0, 5);
         ties.plan('n', 'p');
         Check.promise(39);
         Check.is("the lowest number", ties.proofAt(0), 0);
-        CriticalweekPlans turned = ofText("3;3;3;2:0,1");
+        Recorded turned = ofText("3;3;3;2:0,1");
         turned.hands(0, 5);
         turned.plan('n', 'p');
         Check.is("the lowest number", turned.proofAt(0), 0);
-        CriticalweekPlans last = with(2, 2);
+        Recorded last = with(2, 2);
         last.hands(0, 2);
         last.plan('n', 'p');
         Check.is("the lowest number of the last ones", last.proofAt(0), 0);
         Check.promise(40);
-        CriticalweekPlans machine = with(2, 2);
+        Recorded machine = with(2, 2);
         machine.hands(0, 2);
         machine.set(0, 'm', 0);
         machine.set(1, 'm', 0);
@@ -758,21 +723,21 @@ public final class PromisesTest {
         machine.plan('n', 'p');
         machine.hands(0, 2);
         Check.isTrue("the hands that there were", machine.isProved());
-        CriticalweekPlans skills = with(2, 2);
+        Recorded skills = with(2, 2);
         skills.set(0, 's', 1);
         skills.set(1, 's', 1);
         skills.plan('n', 'p');
         Check.isTrue("not proved by another skill", !skills.isProved());
     }
 
-    private static CriticalweekPlans emptyProof() {
-        CriticalweekPlans x = new CriticalweekPlans();
+    private static Recorded emptyProof() {
+        Recorded x = new Recorded();
         x.plan('n', 'p');
         return x;
     }
 
     private static void likeHands() {
-        CriticalweekPlans x = ofText("1;5:0;5:0;5:1,2;5");
+        Recorded x = ofText("1;5:0;5:0;5:1,2;5");
         x.set(1, 'm', 0);
         x.set(2, 'm', 0);
         x.set(3, 's', 2);
@@ -784,13 +749,13 @@ public final class PromisesTest {
             Check.promise(42);
             Check.is("best by lists with " + hands, x.bestByLists(hands), byLists[hands - 1]);
         }
-        CriticalweekPlans turned = ofText("5;1;5:1;5:1;5:2,3");
+        Recorded turned = ofText("5;1;5:1;5:1;5:2,3");
         Check.promise(41);
         Check.is("best in another order", turned.best(2), 11);
         Check.promise(42);
         Check.is("best by lists in another order", turned.bestByLists(2), 15);
-        CriticalweekPlans seven = with(1, 1, 1, 1, 1, 1, 1);
-        CriticalweekPlans none = new CriticalweekPlans();
+        Recorded seven = with(1, 1, 1, 1, 1, 1, 1);
+        Recorded none = new Recorded();
         Check.promise(41);
         Check.fails(BAD, x, y -> y.best(0));
         Check.fails(BAD, seven, y -> y.best(5));
@@ -810,7 +775,7 @@ public final class PromisesTest {
     private static void anomalies() {
         Check.promise(43);
         // Graham's nine tasks: 12 with three hands; more hands, shorter tasks or fewer needs end later.
-        CriticalweekPlans x = ofText("3;2;2;2;4:3;4:3;4:3;4:3;9:0");
+        Recorded x = ofText("3;2;2;2;4:3;4:3;4:3;4:3;9:0");
         x.hands(0, 3);
         Check.is("before", x.plan('n', 'p'), 12);
         Check.is("a hand more", x.anomaly('h', 'n'), 0);
@@ -828,25 +793,25 @@ public final class PromisesTest {
         Check.fails(BAD, x, y -> y.anomaly('h', 'x'));
         Check.is("hands are as they were", x.hands(0, 3), 3);
         for (char kind : "hsn".toCharArray()) {
-            Check.is("without tasks", new CriticalweekPlans().anomaly(kind, 'n'), -1);
+            Check.is("without tasks", new Recorded().anomaly(kind, 'n'), -1);
         }
-        CriticalweekPlans five = with(2, 2, 2, 2, 2, 2);
+        Recorded five = with(2, 2, 2, 2, 2, 2);
         five.hands(0, 5);
         Check.is("a sixth hand", five.anomaly('h', 'n'), -1);
         Check.is("lengths of 1", with(1, 1, 1).anomaly('s', 'l'), -1);
     }
 
     private static void anomalyOfTwoHands(String text, char kind, char rule, int due) {
-        CriticalweekPlans x = ofText(text);
+        Recorded x = ofText(text);
         x.hands(0, 2);
         Check.is("anomaly of " + text, x.anomaly(kind, rule), due);
     }
 
     /** What a new object with the shorter task answers. */
-    private static int shorterTask(CriticalweekPlans x) {
+    private static int shorterTask(Recorded x) {
         int before = x.plan('n', 'p');
         for (int task = 0; task < x.tasks(); task++) {
-            CriticalweekPlans y = ofText("3;2;2;2;4:3;4:3;4:3;4:3;9:0");
+            Recorded y = ofText("3;2;2;2;4:3;4:3;4:3;4:3;9:0");
             y.hands(0, 3);
             y.set(task, 'l', y.of(task, 'l') - 1);
             if (y.plan('n', 'p') > before) {
@@ -858,13 +823,13 @@ public final class PromisesTest {
 
     private static void levels() {
         Check.promise(44);
-        Check.is("without tasks", new CriticalweekPlans().leastPeak(), 0);
+        Check.is("without tasks", new Recorded().leastPeak(), 0);
         Check.is("two behind each other", with(4, 2, 2).leastPeak(), 2);
         Check.is("three", with(4, 3, 2).leastPeak(), 3);
         Check.is("with needs", ofText("6;2;2:1+1;1").leastPeak(), 2);
         Check.is("with a lag that keeps it up", ofText("4;1;1:1+2;2").leastPeak(), 2);
         Check.is("with a lag that is too long", ofText("4;1;1:1+2;3").leastPeak(), 3);
-        CriticalweekPlans skills = with(4, 2, 2);
+        Recorded skills = with(4, 2, 2);
         skills.set(1, 'm', 0);
         skills.set(2, 's', 1);
         Check.is("machines and skills aside", skills.leastPeak(), 2);
@@ -877,7 +842,7 @@ public final class PromisesTest {
     }
 
     private static void shortening() {
-        CriticalweekPlans x = ofText("6;4:0;8;3:1,2");
+        Recorded x = ofText("6;4:0;8;3:1,2");
         Check.promise(45);
         Check.is("before", x.shorten(0, 5, 99), 0);
         Check.is("before", x.shorten(0, 2, 7), 5);
@@ -893,7 +858,7 @@ public final class PromisesTest {
         x.shorten(2, 1, 1);
         Check.promise(46);
         Check.is("least end", x.leastEnd(), 10);
-        Check.is("without tasks", new CriticalweekPlans().leastEnd(), 0);
+        Check.is("without tasks", new Recorded().leastEnd(), 0);
         Check.promise(47);
         Check.is("cost", x.leastCost(13), 0);
         Check.is("cost", x.leastCost(12), 5);
@@ -902,16 +867,16 @@ public final class PromisesTest {
         Check.is("cost", x.leastCost(Integer.MAX_VALUE), 0);
         Check.fails(NONE, x, y -> y.leastCost(9));
         Check.fails(NONE, x, y -> y.leastCost(Integer.MIN_VALUE));
-        CriticalweekPlans dear = ofText("6;6:0;6:1;6:2;6:3");
+        Recorded dear = ofText("6;6:0;6:1;6:2;6:3");
         for (int task = 0; task < 4; task++) {
             dear.shorten(task, 5, 99 - task);
         }
         Check.is("dear", dear.leastCost(10), 5 * (99 + 98 + 97 + 96));
         Check.is("the cheaper ones first", dear.leastCost(24), 5 * 96 + 97);
-        CriticalweekPlans none = new CriticalweekPlans();
+        Recorded none = new Recorded();
         Check.is("without tasks", none.leastCost(0), 0);
         Check.fails(NONE, none, y -> y.leastCost(-1));
-        CriticalweekPlans many = with(9, 9, 9, 9, 9);
+        Recorded many = with(9, 9, 9, 9, 9);
         for (int task = 0; task < 4; task++) {
             many.shorten(task, 5, 1);
         }
@@ -919,7 +884,7 @@ public final class PromisesTest {
         many.shorten(4, 1, 1);
         Check.fails(NEVER, many, y -> y.leastCost(9));
         Check.fails(NONE, many, y -> y.leastCost(7));
-        CriticalweekPlans two = with(9, 9, 9, 9, 9, 9);
+        Recorded two = with(9, 9, 9, 9, 9, 9);
         int[] cuts = {4, 4, 4, 3, 3};
         for (int task = 0; task < 5; task++) {
             two.shorten(task, cuts[task], 1);
@@ -928,7 +893,7 @@ public final class PromisesTest {
     }
 
     private static void guessing() {
-        CriticalweekPlans x = ofText("3;2:0;4");
+        Recorded x = ofText("3;2:0;4");
         Check.promise(48);
         Check.is("guessed", x.guess(0, 1, 5), 1);
         Check.is("guessed again", x.guess(0, 2, 6), 1);
@@ -940,7 +905,7 @@ public final class PromisesTest {
         Check.fails(BAD, x, y -> y.guess(0, 3, 61));
         Check.promise(49);
         Check.is("parts", x.allOdds(), 36L);
-        Check.is("parts", new CriticalweekPlans().allOdds(), 1L);
+        Check.is("parts", new Recorded().allOdds(), 1L);
         Check.promise(50);
         // 0-1 is 4, 5 or 8 long by 1, 4 and 1 part; 2 is 4, 4 or 7 long.
         Check.is("odds", x.oddsBy(3), 0L);
@@ -948,13 +913,13 @@ public final class PromisesTest {
         Check.is("odds", x.oddsBy(5), 25L);
         Check.is("odds", x.oddsBy(7), 30L);
         Check.is("odds", x.oddsBy(8), 36L);
-        Check.is("without tasks", new CriticalweekPlans().oddsBy(0), 1L);
-        Check.is("without tasks", new CriticalweekPlans().oddsBy(-1), 0L);
+        Check.is("without tasks", new Recorded().oddsBy(0), 1L);
+        Check.is("without tasks", new Recorded().oddsBy(-1), 0L);
         Check.promise(51);
         Check.is("critical", x.oddsCritical(2), 5L + 5L);
         Check.is("critical", x.oddsCritical(1), 36L - 5L);
         Check.fails(NONE, x, y -> y.oddsCritical(3));
-        CriticalweekPlans many = with(2, 2, 2, 2, 2, 2, 2);
+        Recorded many = with(2, 2, 2, 2, 2, 2, 2);
         for (int task = 0; task < 6; task++) {
             many.guess(task, 2, 2);
         }
@@ -971,7 +936,7 @@ public final class PromisesTest {
     }
 
     private static void worth() {
-        CriticalweekPlans x = ofText("3;7:0+1");
+        Recorded x = ofText("3;7:0+1");
         x.set(0, 'w', 10);
         x.set(1, 'w', 9999);
         Check.promise(52);
@@ -982,7 +947,7 @@ public final class PromisesTest {
         Check.is("planned", x.planned(5), 10 + 9999 / 7);
         Check.is("each is cut", x.planned(Integer.MAX_VALUE), 10009);
         Check.fails(BAD, x, y -> y.planned(-1));
-        Check.is("without tasks", new CriticalweekPlans().planned(5), 0);
+        Check.is("without tasks", new Recorded().planned(5), 0);
         Check.promise(53);
         Check.is("nothing", x.earned(), 0);
         x.set(0, 'd', 19);
@@ -993,21 +958,21 @@ public final class PromisesTest {
         Check.is("index", x.index(2), 100f / 6f);
         Check.fails(RATIO, x, y -> y.index(0));
         Check.fails(BAD, x, y -> y.index(-1));
-        Check.fails(RATIO, new CriticalweekPlans(), y -> y.index(7));
-        CriticalweekPlans hour = with(1);
+        Check.fails(RATIO, new Recorded(), y -> y.index(7));
+        Recorded hour = with(1);
         hour.set(0, 'w', 5);
         Check.is("an hour", hour.index(1), 0.0f);
         Check.promise(52);
         Check.is("an hour", hour.planned(1), 5);
         Check.promise(54);
-        CriticalweekPlans small = with(9);
+        Recorded small = with(9);
         small.set(0, 'w', 1);
         Check.fails(RATIO, small, y -> y.index(8));
         Check.is("index", small.index(9), 0.0f);
     }
 
     private static void changes() {
-        CriticalweekPlans x = ofText("3;4:0;2:1");
+        Recorded x = ofText("3;4:0;2:1");
         Check.promise(56);
         Check.is("nothing is kept", x.moved(), 0);
         Check.promise(57);
@@ -1015,7 +980,7 @@ public final class PromisesTest {
         Check.fails(NONE, x, y -> y.movedBy(3));
         Check.promise(55);
         Check.is("kept", x.keep(), 3);
-        Check.is("kept without tasks", new CriticalweekPlans().keep(), 0);
+        Check.is("kept without tasks", new Recorded().keep(), 0);
         x.set(0, 'l', 5);
         x.task(7);
         Check.promise(56);
@@ -1041,22 +1006,22 @@ public final class PromisesTest {
 
     private static void craneOrders() {
         Check.promise(58);
-        CriticalweekPlans x = ofText("1;5:0;5:0;5:1,2;5");
+        Recorded x = ofText("1;5:0;5:0;5:1,2;5");
         x.set(1, 'm', 0);
         x.set(2, 'm', 0);
         x.set(2, 'p', 1);
         Check.is("two orders", x.crane(), 22);
-        Check.is("without tasks", new CriticalweekPlans().crane(), 0);
+        Check.is("without tasks", new Recorded().crane(), 0);
         Check.is("hands enough", with(3, 5, 4).crane(), 5);
         x.set(1, 'm', 2);
         Check.is("no order any longer", x.crane(), 11 + 6);
         x.undo();
         Check.is("two orders again", x.crane(), 22);
-        CriticalweekPlans other = with(3, 5);
+        Recorded other = with(3, 5);
         other.set(0, 'm', 1);
         other.set(1, 'm', 1);
         Check.is("other machines", other.crane(), 5);
-        CriticalweekPlans turned = with(3, 5, 2);
+        Recorded turned = with(3, 5, 2);
         turned.need(2, 1, 0);
         turned.need(1, 0, 4);
         for (int task = 0; task < 3; task++) {
@@ -1064,13 +1029,13 @@ public final class PromisesTest {
         }
         turned.set(0, 'p', 1);
         Check.is("needs among them", turned.crane(), 14 + 7);
-        CriticalweekPlans last = with(5, 3, 1);
+        Recorded last = with(5, 3, 1);
         for (int task = 0; task < 3; task++) {
             last.set(task, 'm', 0);
         }
         last.set(2, 'p', 1);
         Check.is("the last one first", last.crane(), 9 + 1);
-        CriticalweekPlans many = with(1, 2, 3, 4, 5, 6);
+        Recorded many = with(1, 2, 3, 4, 5, 6);
         for (int task = 0; task < 5; task++) {
             many.set(task, 'm', 0);
             many.set(task, 'p', task % 2);
@@ -1081,16 +1046,16 @@ public final class PromisesTest {
     }
 
     private static void figures() {
-        CriticalweekPlans x = ofText("3;4:0;2");
+        Recorded x = ofText("3;4:0;2");
         Check.promise(59);
         Check.is("share", x.criticalShare(), 2f / 3f);
-        Check.fails(RATIO, new CriticalweekPlans(), y -> y.criticalShare());
+        Check.fails(RATIO, new Recorded(), y -> y.criticalShare());
         Check.promise(60);
         Check.is("mean", x.meanLength(), 3.0);
         Check.is("mean", with(1, 1, 3).meanLength(), 5.0 / 3.0);
-        Check.fails(RATIO, new CriticalweekPlans(), y -> y.meanLength());
+        Check.fails(RATIO, new Recorded(), y -> y.meanLength());
         Check.promise(61);
-        CriticalweekPlans sum = new CriticalweekPlans();
+        Recorded sum = new Recorded();
         Check.is("at first", sum.checksum(), 7L);
         sum.type('A');
         Check.is("a sign", sum.checksum(), 7L * 31 + 65);
@@ -1114,9 +1079,9 @@ public final class PromisesTest {
 
     private static void theorem() {
         Check.promise(62);
-        Check.isTrue("without tasks", new CriticalweekPlans().isTrue());
+        Check.isTrue("without tasks", new Recorded().isTrue());
         Check.isTrue("without tasks", emptyProof().isTrue());
-        CriticalweekPlans x = ofText("4;3;2:1+1;5;1:0");
+        Recorded x = ofText("4;3;2:1+1;5;1:0");
         Check.isTrue("without a plan", x.isTrue());
         for (char way : "ps".toCharArray()) {
             x.hands(0, 2);
@@ -1124,7 +1089,7 @@ public final class PromisesTest {
             x.hands(0, 1);
             Check.isTrue("with a plan", x.isTrue());
         }
-        CriticalweekPlans graham = ofText("3;2;2;2;4:3;4:3;4:3;4:3;9:0");
+        Recorded graham = ofText("3;2;2;2;4:3;4:3;4:3;4:3;9:0");
         for (int hands = 1; hands <= 5; hands++) {
             graham.hands(0, hands);
             for (char rule : "nlrst".toCharArray()) {
