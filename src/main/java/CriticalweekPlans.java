@@ -20,7 +20,6 @@ public final class CriticalweekPlans {
     private static final int CALENDARS = 4;
     private static final int WEEK = 168;
     private static final int SKILLS = 3;
-    private static final int MACHINES = 3;
     private static final int MOST_HANDS = 5;
     private static final int MOST_LIKE_HANDS = 4;
     private static final int MOST_SEARCHED = 6;

@@ -62,6 +62,15 @@ public final class BookEdgesTest extends Edges {
         Check.is("a new object behind another one", State.of(new Recorded()), before);
     }
 
+    /** An object is promised 512 calls. */
+    static void promise01_the512thCallIsAnswered() {
+        Recorded x = with(1);
+        for (int call = 2; call < Recorded.MOST_CALLS; call++) {
+            x.set(0, 'w', call);
+        }
+        Check.is("worth", x.of(0, 'w'), 511);
+    }
+
     // ---- promise 2
 
     static void promise02_aLengthOf1IsTheLeast() {

@@ -153,9 +153,10 @@ public final class ClockEdgesTest extends Edges {
 
     // ---- promises 26, 27
 
+    /** Each is asked of an object that was asked for no time ahead of it. */
     private static void clock(Recorded x, int task, int begin, int end) {
-        Check.is("begin of " + task, x.clockBegin(task), begin);
-        Check.is("end of " + task, x.clockEnd(task), end);
+        Check.is("begin of " + task, x.again().clockBegin(task), begin);
+        Check.is("end of " + task, x.again().clockEnd(task), end);
     }
 
     private static void never(Recorded x, int task) {

@@ -733,6 +733,13 @@ public final class HandsEdgesTest extends Edges {
         Check.is("without one of them", x.isProved(), false);
     }
 
+    static void promise40_aHoleThatIsTooShortForTheLastTask() {
+        Recorded x = planned(withHands("3;1;1:0;1:0;3", 2), 'n', 's');
+        proof(x, 4);
+        Check.is("proved", x.isProved(), false);
+        Check.is("as hands are free", planned(x, 'n', 'p').isProved(), true);
+    }
+
     static void promise40_allTheHandsThatThereWere() {
         Recorded x = aheadOfTheProof(1, 1);
         x.hands(0, 2);

@@ -40,6 +40,24 @@ public final class PlainPlanEdgesTest extends Edges {
         Check.is("one that needs none", fullOfNeeds().earliest(11), 0);
     }
 
+    /** A row of four whose numbers go down, its three needs told in each order. */
+    static void promise16_needsToldInAnyOrder() {
+        int[][] orders = {{0, 1, 2}, {0, 2, 1}, {1, 0, 2}, {1, 2, 0}, {2, 0, 1}, {2, 1, 0}};
+        for (int[] order : orders) {
+            Recorded x = with(1, 2, 3, 4);
+            for (int later : order) {
+                x.need(later + 1, later, later);
+            }
+            int[] due = {12, 10, 6, 0};
+            for (int task = 0; task < 4; task++) {
+                Check.is("earliest", x.again().earliest(task), due[task]);
+                Check.is("latest", x.again().latest(task), due[task]);
+                Check.is("chain", x.again().chainAt(task), 3 - task);
+            }
+            Check.is("end", x.again().end(), 13);
+        }
+    }
+
     static void promise17_noSuchTask() {
         noTask(rich(), Recorded::latest);
         noTask(new Recorded(), Recorded::latest);

@@ -134,43 +134,69 @@ public final class SearchEdgesTest extends Edges {
         Check.is("a need less", alike(20, 60).anomaly('n', 'n'), -1);
     }
 
+    private static Recorded ofTwoHands(String text) {
+        Recorded x = ofText(text);
+        x.hands(0, 2);
+        return x;
+    }
+
     static void promise43_aTaskOfAnHourIsNotShorter() {
         Check.is("all of an hour", alike(20, 1).anomaly('s', 'n'), -1);
-        Recorded x = ofText("4;2:0;4:0;4;2");
-        x.hands(0, 2);
-        Check.is("the fourth an hour shorter", x.anomaly('s', 'n'), 3);
+        Check.is("the first of an hour", ofTwoHands("1;2:0;4:0;2;3:1").anomaly('s', 'n'), -1);
     }
 
     static void promise43_aTaskOfTwoHoursIsShorter() {
-        Recorded x = ofText("2;1;5:1;1;3:0;5:0");
-        x.hands(0, 2);
-        int due = firstShorter(x, 2);
-        Check.is("as new books tell", x.anomaly('s', 'n'), due);
+        Recorded x = ofTwoHands("2;2:0;1;1:0;4");
+        Check.is("the end", x.plan('n', 'p'), 5);
+        Check.is("the first of two hours", x.anomaly('s', 'n'), 0);
+        x.set(0, 'l', 1);
+        Check.is("the end with that", x.plan('n', 'p'), 6);
     }
 
-    /** The first task with which a new book ends later, if it is an hour shorter; the list is by numbers. */
-    private static int firstShorter(Recorded x, int hands) {
-        int end = x.plan('n', 'p');
-        for (int task = 0; task < x.tasks(); task++) {
-            Recorded other = x.again();
-            if (other.of(task, 'l') > 1) {
-                other.set(task, 'l', other.of(task, 'l') - 1);
-                other.hands(0, hands);
-                if (other.plan('n', 'p') > end) {
-                    return task;
-                }
-            }
+    static void promise43_theFirstTaskAndOneBehindIt() {
+        Check.is("the first", ofTwoHands("2;2:0;1;1:0;4").anomaly('s', 'n'), 0);
+        Check.is("the fourth", ofTwoHands("4;2:0;4:0;4;2").anomaly('s', 'n'), 3);
+    }
+
+    static void promise43_askedTwiceItIsTheSame() {
+        Recorded x = ofTwoHands("2;4;1:0,1;3");
+        for (int each = 0; each < 2; each++) {
+            Check.is("a need less", x.anomaly('n', 'n'), 1);
+            Check.is("a task shorter", x.anomaly('s', 'n'), -1);
+            Check.is("a hand more", x.anomaly('h', 'n'), -1);
         }
-        return -1;
+        Recorded last = ofTwoHands("2;4;1:1,0;3");
+        last.dropNeed(1);
+        int before = last.again().anomaly('s', 'n');
+        last.anomaly('n', 'n');
+        Check.is("a task shorter behind a need less", last.anomaly('s', 'n'), before);
+    }
+
+    static void promise43_lessHandsAreNotMore() {
+        Recorded x = alike(6, 2);
+        x.hands(0, 2);
+        Check.is("a hand more", x.anomaly('h', 'n'), -1);
+    }
+
+    /** Ten hours with a hand of each skill; with another one of the skill 0 two machines are taken too early. */
+    static void promise43_aHandMoreWithoutNeeds() {
+        Recorded x = with(4, 2, 3, 2, 3, 4);
+        x.set(0, 'm', 1);
+        x.set(2, 's', 1);
+        x.set(3, 'm', 2);
+        x.set(4, 'm', 2);
+        x.set(4, 's', 1);
+        x.set(5, 'm', 1);
+        x.set(5, 's', 1);
+        Check.is("the end", x.plan('n', 'p'), 10);
+        Check.is("a hand more", x.anomaly('h', 'n'), 0);
+        x.hands(0, 2);
+        Check.is("the end with that", x.plan('n', 'p'), 11);
     }
 
     static void promise43_ofTwoNeedsTheFirst() {
-        Recorded x = ofText("2;4;1:0,1;3");
-        x.hands(0, 2);
-        Check.is("the second alone", x.anomaly('n', 'n'), 1);
-        Recorded turned = ofText("2;4;1:1,0;3");
-        turned.hands(0, 2);
-        Check.is("the first alone", turned.anomaly('n', 'n'), 0);
+        Check.is("the second alone", ofTwoHands("2;4;1:0,1;3").anomaly('n', 'n'), 1);
+        Check.is("the first alone", ofTwoHands("2;4;1:1,0;3").anomaly('n', 'n'), 0);
     }
 
     static void promise43_aSixthHand() {
@@ -243,6 +269,11 @@ public final class SearchEdgesTest extends Edges {
         Check.fails("29 times 23 times 3", NEVER, with(32, 38, 58, 60), y -> y.leastPeak());
     }
 
+    static void promise44_2000BeginsTimesTwoMoreAreRefused() {
+        Check.fails("2000 times 2", NEVER, with(36, 21, 59, 59, 60), y -> y.leastPeak());
+        Check.is("2000 times 1", with(36, 21, 59, 60, 60).leastPeak(), 4);
+    }
+
     static void promise44_mostBeginsAreRefused() {
         Check.fails("60 to the power of 5", NEVER, with(60, 1, 1, 1, 1, 1), y -> y.leastPeak());
         Recorded x = row(3, 60, 30);
@@ -252,14 +283,20 @@ public final class SearchEdgesTest extends Edges {
         Check.fails("240 to the power of 3", NEVER, x, y -> y.leastPeak());
     }
 
+    static void promise44_theShortestFirst() {
+        Check.is("an hour beside both", with(1, 4, 4).leastPeak(), 3);
+        Check.is("an hour beside one", with(1, 4, 3).leastPeak(), 2);
+    }
+
     static void promise44_noneEndsLaterThanAtTheEnd() {
         Check.is("two hours for both", with(2, 1, 1).leastPeak(), 2);
         Check.is("an hour too much", with(2, 2, 1).leastPeak(), 3);
     }
 
     static void promise44_noneBeginsAheadOfItsNeeds() {
-        Check.is("a lag of an hour that fits", ofText("4;1;1:1+1;2").leastPeak(), 2);
-        Check.is("a lag that does not fit", ofText("4;1;1:1+2;3").leastPeak(), 3);
+        Check.is("two behind another one", ofText("4;2;1:1;1:1").leastPeak(), 2);
+        Check.is("with no room for it but at once", ofText("4;2;1:1+1;1:1+1").leastPeak(), 3);
+        Check.is("a lag of an hour less", ofText("4;2;1:1;1:1+1").leastPeak(), 2);
     }
 
     // ---- promise 45
@@ -379,6 +416,7 @@ public final class SearchEdgesTest extends Edges {
 
     static void promise47_moreThan2000WaysAreRefused() {
         refused(NEVER, shortened(row(6, 60, 0), 4, 4, 2, 2, 2, 2), Recorded::leastCost, 344, 360, MOST);
+        refused(NEVER, shortened(row(6, 60, 0), 4, 4, 4, 3, 3, 1), Recorded::leastCost, 341, 360, MOST);
         refused(NEVER, shortened(alike(11, 60), 1, 1, 1, 1, 1, 1, 1, 1, 1, 1, 1), Recorded::leastCost, 60);
         Check.is("1024 ways", shortened(alike(10, 60), 1, 1, 1, 1, 1, 1, 1, 1, 1, 1).leastCost(59), 10);
     }
@@ -399,6 +437,25 @@ public final class SearchEdgesTest extends Edges {
 
     static void promise47_whatCannotBeGoesAheadOfTooManyWays() {
         refused(NONE, shortened(row(6, 60, 0), 4, 4, 2, 2, 2, 2), Recorded::leastCost, 343, 0, LEAST);
+    }
+
+    static void promise47_theLastOfTwenty() {
+        Recorded x = row(20, 60, 30);
+        x.shorten(19, 5, 99);
+        Check.is("an hour", x.leastCost(1769), 99);
+        Check.is("five hours", x.leastCost(1765), 495);
+        refused(NONE, x, Recorded::leastCost, 1764);
+    }
+
+    static void promise47_theOnesThatCostLess() {
+        Recorded x = row(3, 9, 0);
+        x.shorten(0, 2, 9);
+        x.shorten(1, 2, 1);
+        x.shorten(2, 2, 5);
+        int[] due = {30, 21, 12, 7, 2, 1, 0};
+        for (int time = 21; time <= 27; time++) {
+            Check.is("least cost by " + time, x.leastCost(time), due[time - 21]);
+        }
     }
 
     static void promise47_theGreatestCost() {
@@ -537,10 +594,42 @@ public final class SearchEdgesTest extends Edges {
         }
     }
 
+    static void promise50_alongARow() {
+        Recorded x = row(2, 5, 1);
+        x.guess(0, 3, 9);
+        long[] due = {0, 1, 1, 5, 5, 5, 5, 6};
+        for (int time = 8; time <= 15; time++) {
+            Check.is("odds by " + time, x.again().oddsBy(time), due[time - 8]);
+        }
+        Check.is("critical", x.oddsCritical(1), 6L);
+    }
+
+    static void promise50_theOwnLengthIsThatOfNow() {
+        Recorded x = with(5);
+        x.guess(0, 3, 9);
+        x.set(0, 'l', 3);
+        Check.is("as short as the least guess", x.oddsBy(3), 5L);
+        Check.is("an hour less", x.oddsBy(2), 0L);
+        x.set(0, 'l', 9);
+        Check.is("as long as the greatest guess", x.oddsBy(8), 1L);
+        Check.is("by its length", x.oddsBy(9), 6L);
+    }
+
     static void promise50_six() {
         Check.is("all short", withGuesses(6).oddsBy(1), 1L);
         Check.is("none long", withGuesses(6).oddsBy(2), 15625L);
         Check.is("all", withGuesses(6).oddsBy(3), 46656L);
+    }
+
+    static void promise50_theLastSixOfTwenty() {
+        Recorded x = alike(20, 2);
+        for (int task = 14; task < 20; task++) {
+            x.guess(task, 1, 3);
+        }
+        Check.is("an hour ahead of the others", x.oddsBy(1), 0L);
+        Check.is("none long", x.oddsBy(2), 15625L);
+        Check.is("the last is critical", x.oddsCritical(19), 7776L + 4 * 3125);
+        Check.is("the first is critical", x.oddsCritical(0), 15625L);
     }
 
     static void promise50_moreThan6AreRefused() {

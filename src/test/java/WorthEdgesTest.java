@@ -311,6 +311,43 @@ public final class WorthEdgesTest extends Edges {
         Check.fails(NEVER, craned(20, 1), y -> y.crane());
     }
 
+    /** The project of fewer hours goes first: all hours once, and those once more. */
+    static void promise58_fiveInAllProjects() {
+        for (int projects = 0; projects < 32; projects++) {
+            Recorded x = with(1, 2, 3, 4, 5);
+            int hours = 0;
+            for (int task = 0; task < 5; task++) {
+                x.set(task, 'm', 0);
+                x.set(task, 'p', projects >> task & 1);
+                hours += (projects >> task & 1) * (task + 1);
+            }
+            Check.is("projects " + projects, x.crane(), 15 + Math.min(hours, 15 - hours));
+        }
+    }
+
+    static void promise58_anotherMachineNow() {
+        Recorded x = craned(2, 7);
+        Check.is("crane", x.crane(), 14);
+        x.set(0, 'm', 1);
+        Check.is("one of the machine 0", x.crane(), 7);
+        x.undo();
+        Check.is("two of the machine 0", x.crane(), 14);
+    }
+
+    static void promise58_needsAmongThem() {
+        Recorded down = craned(3, 2);
+        down.need(2, 1, 0);
+        down.need(1, 0, 3);
+        Check.is("numbers that go down", down.crane(), 9);
+        Recorded far = ofText("2;1:0;2:1;3");
+        far.set(0, 'm', 0);
+        far.set(2, 'm', 0);
+        far.set(3, 'm', 0);
+        Check.is("by a task between them", far.crane(), 7);
+        far.set(3, 'l', 1);
+        Check.is("an hour between them", far.crane(), 5);
+    }
+
     static void promise58_ofJustTheLengthsOneBehindAnother() {
         Recorded x = ofText("3;4:0;2");
         x.set(1, 'm', 0);
@@ -499,9 +536,18 @@ public final class WorthEdgesTest extends Edges {
         skill.plan('n', 'p');
         Check.is("proved", skill.isProved(), false);
         Check.isTrue("with another skill", skill.isTrue());
-        Recorded lag = ofText("1;1:0+4;5");
-        lag.plan('n', 's');
-        Check.is("proved", lag.isProved(), false);
-        Check.isTrue("with a lag", lag.isTrue());
+        Recorded after = ofText("3;1;1:0;1:0;3");
+        after.hands(0, 2);
+        after.plan('n', 's');
+        Check.is("proved", after.isProved(), false);
+        Check.isTrue("one after another", after.isTrue());
+    }
+
+    static void promise62_aLagIsNotOfTheTheorem() {
+        for (int lag : new int[] {1, 30}) {
+            Recorded x = row(2, 1, lag);
+            x.plan('n', 'p');
+            Check.isTrue("one hand for more hours than the lengths have", x.planEnd() > 2 && x.isTrue());
+        }
     }
 }
