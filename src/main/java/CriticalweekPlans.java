@@ -1106,18 +1106,18 @@ public final class CriticalweekPlans {
 
         /** A number of many digits stays at one that is out of every range. */
         private int readNumber() {
-            if (!isAtDigit()) {
-                return NO_NUMBER;
-            }
             int number = 0;
-            for (; isAtDigit(); place++) {
-                number = Math.min(TOO_GREAT, number * 10 + signs[place] - '0');
+            int at = place;
+            for (; at < count && isDigit(signs[at]); at++) {
+                number = Math.min(TOO_GREAT, number * 10 + signs[at] - '0');
             }
-            return number;
+            boolean isThere = at > place;
+            place = at;
+            return isThere ? number : NO_NUMBER;
         }
 
-        private boolean isAtDigit() {
-            return place >= 0 && place < count && signs[place] >= '0' && signs[place] <= '9';
+        private boolean isDigit(char sign) {
+            return sign >= '0' && sign <= '9';
         }
 
         private boolean isAt(char sign) {
@@ -1168,7 +1168,7 @@ public final class CriticalweekPlans {
                     put++;
                 }
             }
-            for (int place = 0; place < put; place++) {
+            for (int place = 0; place < taskCount && place < put; place++) {
                 for (int number = 0; number < needCount; number++) {
                     int follower = book.links[LATER][number];
                     if (book.links[EARLIER][number] != order[place]) {

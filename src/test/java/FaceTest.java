@@ -115,6 +115,10 @@ public final class FaceTest {
         }
         Check.is("imports", imports, List.of("import java.util.Arrays;", "import java.util.NoSuchElementException;"));
         String code = String.join("\n", lines).replaceAll("//.*", "").replaceAll("(?s)/\\*.*?\\*/", "");
+        Matcher loops = Pattern.compile("\\b(for|while) \\((.*)\\) \\{").matcher(code);
+        while (loops.find()) {
+            Check.isTrue("a counter against a bound: " + loops.group(), loops.group(2).matches(".* ([<>]=?|:) .*"));
+        }
         String[] ruledOut = {"->", "::", "Exact\\(", "\\bfinally\\b", "\\btry\\b", "\\bcatch\\b", "\\bassert\\b",
             "\\bsynchronized\\b", "\\binstanceof\\b", "\\bSystem\\.(?!arraycopy)", "\\bpackage\\b", "\\bprotected\\b",
             "\\bObject\\b", "\\bThread\\b", "static \\{", "\" \\+", "\\+ \""};
